@@ -1,0 +1,46 @@
+import java.util.concurrent.Callable;
+
+/** Compares answers with those that are due, and counts both kinds. */
+final class Due {
+    private int right;
+    private int wrong;
+
+    /** The call answers the number, or the truth, that is due. */
+    void is(String call, Object want, Callable<?> body) {
+        compare(call, number(want), outcome(body));
+    }
+
+    /** The call throws just the exception that is due: a class below it is not it. */
+    void fails(String call, Class<? extends RuntimeException> want, Callable<?> body) {
+        compare(call, want, outcome(body));
+    }
+
+    void compare(String call, Object want, Object got) {
+        if (want.equals(got)) {
+            right++;
+        } else {
+            wrong++;
+            System.out.println(call + ": " + got + ", due is " + want);
+        }
+    }
+
+    /** What a call comes to: its answer, or the class of what it throws. */
+    static Object outcome(Callable<?> body) {
+        try {
+            return number(body.call());
+        } catch (Exception thrown) {
+            return thrown.getClass();
+        }
+    }
+
+    private static Object number(Object answer) {
+        return answer instanceof Integer ? (Object) (long) (Integer) answer : answer;
+    }
+
+    void end() {
+        System.out.println(right + " answers as due, " + wrong + " not");
+        if (wrong != 0 || right == 0) {
+            System.exit(1);
+        }
+    }
+}
