@@ -37,13 +37,17 @@ final class Journals {
         journal.commit();
     }
 
-    /** Every byte of the store and every answer of look and change, so that two states can be compared. */
+    /**
+     * The head, a byte of each block and every answer of look and change, so that two states can be
+     * compared: two of them and what goes before stay below the 512 calls that an object is for.
+     */
     static String state(BlockJournal journal) {
         StringBuilder text = new StringBuilder();
-        for (int block = 0; block < 96; block++) {
-            for (int k = 0; k < 64; k++) {
-                text.append(journal.at(block, k)).append(' ');
-            }
+        for (int k = 0; k < 64; k++) {
+            text.append(journal.at(0, k)).append(' ');
+        }
+        for (int block = 1; block < 96; block++) {
+            text.append(journal.at(block, 0)).append(' ');
         }
         for (int what = 0; what <= 6; what++) {
             text.append(journal.look(what)).append(' ');
