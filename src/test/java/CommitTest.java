@@ -1,126 +1,174 @@
-import java.util.zip.CRC32C;
-
 /** Promise 5: commit. */
 public final class CommitTest {
     private static final Due DUE = new Due();
 
     public static void main(String[] args) {
         writesOneBehindTheOther();
-        headOfCommit();
-        headOf24();
+        lastWriteIsDone();
+        headBehindThePayload();
+        sequenceAsItWasAtFirst();
+        targetsAndZeros();
+        checkOfTheBlocks();
+        lastHead();
         sequenceWraps();
-        wholeHeadIsWritten();
         payloadBehindStays();
-        throwsWithoutChangesOrPower();
+        noChangesThen();
+        throwsWithoutChanges();
+        throwsWithThePowerOff();
         allOrNothing();
         DUE.end();
     }
 
-    /** With 2 changes: 1 and 2 payload, 3 the head, 4 and 5 the blocks, 6 the head. */
+    /** Change i begins with the byte i + 1 and is of block 25 + 2 * i. */
     private static void writesOneBehindTheOther() {
-        for (int done = 0; done <= 7; done++) {
-            BlockJournal x = Journals.withChanges(90, 30);
-            x.lose(done + 1);
-            String cut = "behind " + done + " writes: ";
-            int n = done;
-            DUE.is(cut + "commit()", done >= 6, x::commit);
-            DUE.is(cut + "writes", (long) Math.min(n, 6), () -> x.look(4));
-            DUE.is(cut + "off", n < 6 ? 1L : 0L, () -> x.look(5));
-            DUE.is(cut + "writes before the loss", n < 6 ? 0L : n - 6L, () -> x.look(6));
-            DUE.is(cut + "no changes", 0L, () -> x.look(3));
-            DUE.is(cut + "block 1", n >= 1 ? 2 : 0, () -> x.at(1, 0));
-            DUE.is(cut + "block 2", n >= 2 ? 1 : 0, () -> x.at(2, 0));
-            DUE.is(cut + "count", n >= 3 && n < 6 ? 2L : 0L, () -> x.look(1));
-            DUE.is(cut + "right", n >= 3 && n < 6 ? 1L : 0L, () -> x.look(2));
-            DUE.is(cut + "sequence", n >= 6 ? 1L : 0L, () -> x.look(0));
-            DUE.is(cut + "block 30", n >= 4 ? 2 : 0, () -> x.at(30, 0));
-            DUE.is(cut + "block 90", n >= 5 ? 1 : 0, () -> x.at(90, 0));
+        DUE.about("A commit of n changes makes these writes, one behind the other: false when the power was lost.");
+        for (int n = 1; n <= 24; n++) {
+            for (int done = 0; done < 2 * n + 2; done++) {
+                BlockJournal x = Journals.withChanges(Journals.everySecond(n));
+                x.lose(done + 1);
+                String cut = n + " changes, behind " + done + " writes: ";
+                DUE.is(cut + "commit()", false, x::commit);
+                DUE.compare(cut + "writes", (long) done, x.look(4));
+                DUE.compare(cut + "off", 1L, x.look(5));
+                DUE.compare(cut + "writes before the loss", 0L, x.look(6));
+                DUE.compare(cut + "count", done > n ? (long) n : 0L, x.look(1));
+                DUE.compare(cut + "right", done > n ? 1L : 0L, x.look(2));
+                DUE.compare(cut + "sequence", 0L, x.look(0));
+                for (int i = 0; i < n; i++) {
+                    DUE.compare(cut + "payload " + (1 + i), done > i ? i + 1 : 0, x.at(1 + i, 0));
+                    DUE.compare(cut + "block " + (25 + 2 * i), done > n + 1 + i ? i + 1 : 0, x.at(25 + 2 * i, 0));
+                }
+            }
         }
     }
 
-    private static void headOfCommit() {
+    private static void lastWriteIsDone() {
+        DUE.about("A commit: true");
+        for (int n = 1; n <= 24; n++) {
+            BlockJournal x = Journals.withChanges(Journals.everySecond(n));
+            x.lose(2 * n + 3);
+            DUE.is("commit() of " + n + ", the power lost behind it", true, x::commit);
+            DUE.compare("writes of " + n, 2L * n + 2, x.look(4));
+            DUE.compare("off", 0L, x.look(5));
+            DUE.compare("writes before the loss", 0L, x.look(6));
+            DUE.compare("sequence", 1L, x.look(0));
+            DUE.compare("count", 0L, x.look(1));
+            for (int i = 0; i < n; i++) {
+                DUE.compare("payload " + (1 + i), i + 1, x.at(1 + i, 0));
+                DUE.compare("block " + (25 + 2 * i), i + 1, x.at(25 + 2 * i, 0));
+            }
+            for (int i = n; i < 24; i++) {
+                DUE.compare("payload " + (1 + i) + " behind them", 0, x.at(1 + i, 0));
+            }
+        }
+    }
+
+    /** Over a head whose bytes were all spoiled, so that each one is seen to be written. */
+    private static BlockJournal behindItsHead(long sequence, int n) {
+        BlockJournal x = Journals.withChanges(Journals.everySecond(n));
+        Journals.sequence(x, sequence);
+        for (int k = 4; k < 64; k++) {
+            x.spoil(0, k, 200);
+        }
+        x.lose(n + 2);
+        x.commit();
+        return x;
+    }
+
+    private static int[][] payload(int n) {
+        int[][] payload = new int[n][];
+        for (int i = 0; i < n; i++) {
+            payload[i] = Journals.block(i + 1);
+        }
+        return payload;
+    }
+
+    private static void headBehindThePayload() {
+        DUE.about("the head with its sequence, the count n, their numbers as targets, the check of the blocks 1 .. n");
+        for (int n = 1; n <= 24; n++) {
+            int[] head = Journals.head(0x89ABCD12L, Journals.everySecond(n), payload(n));
+            Journals.sameBlock(DUE, n + " changes", behindItsHead(0x89ABCD12L, n), 0, head);
+        }
+    }
+
+    private static void sequenceAsItWasAtFirst() {
+        DUE.about("its sequence as it was when the commit began");
+        for (long sequence : new long[] {0, 1, 255, 256, 65535, 0x7FFFFFFFL, 0x80000000L, 0xFFFFFFFFL}) {
+            BlockJournal x = behindItsHead(sequence, 1);
+            DUE.compare("look(0)", sequence, x.look(0));
+            Journals.sameBlock(DUE, "sequence " + sequence, x, 0,
+                    Journals.head(sequence, Journals.everySecond(1), payload(1)));
+        }
+    }
+
+    private static void targetsAndZeros() {
+        DUE.about("their numbers as targets (0 behind them)");
         BlockJournal x = new BlockJournal();
-        x.spoil(0, 0, 0x12);
-        x.spoil(0, 3, 0x89);
-        for (int block : new int[] {95, 33}) {
-            x.feed(8, 0x1122334455667788L * block);
+        for (int block : new int[] {95, 25}) {
             x.put(block);
+        }
+        for (int k = 0; k < 64; k++) {
+            x.spoil(0, k, 255);
         }
         x.lose(4);
         x.commit();
-        int[] head = new int[64];
-        head[0] = 0x12;
-        head[3] = 0x89;
-        head[4] = 2;
-        head[5] = 33;
-        head[7] = 95;
-        putCheck(x, head);
-        sameHead("head of a commit", x, head);
+        int[] targets = {25, 0, 95, 0};
+        for (int k = 5; k < 53; k++) {
+            DUE.compare("byte " + k, k < 9 ? targets[k - 5] : 0, x.at(0, k));
+        }
+        BlockJournal full = behindItsHead(0, 24);
+        DUE.compare("the 24th target", 71, full.at(0, 51));
+        DUE.compare("its second byte", 0, full.at(0, 52));
+        DUE.compare("the first 0 behind", 0, full.at(0, 53));
     }
 
-    private static void headOf24() {
-        BlockJournal x = Journals.full();
-        x.lose(26);
-        x.commit();
-        int[] head = new int[64];
-        head[4] = 24;
-        for (int i = 0; i < 24; i++) {
-            head[5 + 2 * i] = 25 + 2 * i;
+    /** The payload behind the changes has bytes too, which the check must not take. */
+    private static void checkOfTheBlocks() {
+        DUE.about("the check of the blocks 1 .. n");
+        for (int n : new int[] {1, 2, 23}) {
+            BlockJournal x = Journals.withChanges(Journals.everySecond(n));
+            x.spoil(n + 1, 0, 77);
+            x.spoil(1, 63, 78);
+            x.lose(n + 2);
+            x.commit();
+            Journals.sameBlock(DUE, n + " changes", x, 0,
+                    Journals.head(0, Journals.everySecond(n), payload(n)));
         }
-        putCheck(x, head);
-        sameHead("head of 24", x, head);
+    }
 
-        BlockJournal done = Journals.full();
-        DUE.is("commit() of 24", true, done::commit);
-        DUE.is("its writes", 50L, () -> done.look(4));
-        for (int i = 0; i < 24; i++) {
-            int change = i;
-            DUE.is("payload " + i, i + 1, () -> done.at(1 + change, 0));
-            DUE.is("target " + i, i + 1, () -> done.at(25 + 2 * change, 0));
+    private static void lastHead() {
+        DUE.about("the head with that sequence and 1 more, all else 0");
+        for (int n : new int[] {1, 2, 24}) {
+            BlockJournal x = Journals.withChanges(Journals.everySecond(n));
+            for (int k = 0; k < 64; k++) {
+                x.spoil(0, k, 200);
+            }
+            x.commit();
+            Journals.sameBlock(DUE, n + " changes", x, 0, Journals.emptyHead(0xC8C8C8C9L));
         }
     }
 
     private static void sequenceWraps() {
-        BlockJournal x = Journals.withChanges(25);
-        x.spoil(0, 0, 255);
-        x.spoil(0, 1, 255);
-        DUE.is("commit()", true, x::commit);
-        DUE.is("65535 and 1 more", 65536L, () -> x.look(0));
-        DUE.is("its third byte", 1, () -> x.at(0, 2));
-
-        BlockJournal y = Journals.withChanges(25);
-        for (int k = 0; k < 4; k++) {
-            y.spoil(0, k, 255);
+        DUE.about("that sequence and 1 more (it wraps)");
+        long[][] pairs = {{0, 1}, {254, 255}, {255, 256}, {65535, 65536}, {0xFFFFFFL, 0x1000000L},
+            {0x7FFFFFFFL, 0x80000000L}, {0x80000000L, 0x80000001L}, {0xFFFFFFFEL, 0xFFFFFFFFL}, {0xFFFFFFFFL, 0}};
+        for (long[] pair : pairs) {
+            BlockJournal x = Journals.withChanges(25);
+            Journals.sequence(x, pair[0]);
+            DUE.is("commit()", true, x::commit);
+            DUE.compare(pair[0] + " and 1 more", pair[1], x.look(0));
+            Journals.sameBlock(DUE, pair[0] + " and 1 more", x, 0, Journals.emptyHead(pair[1]));
         }
-        DUE.is("commit()", true, y::commit);
-        DUE.is("it wraps", 0L, () -> y.look(0));
-        sameHead("wrapped head", y, new int[64]);
-    }
-
-    private static void wholeHeadIsWritten() {
-        BlockJournal x = Journals.withChanges(25);
-        for (int k = 4; k < 64; k++) {
-            x.spoil(0, k, 200);
-        }
-        x.lose(3);
-        x.commit();
-        int[] head = new int[64];
-        head[4] = 1;
-        head[5] = 25;
-        putCheck(x, head);
-        sameHead("head over a spoiled one", x, head);
-
-        BlockJournal y = Journals.withChanges(25);
-        for (int k = 4; k < 64; k++) {
-            y.spoil(0, k, 200);
-        }
-        y.commit();
-        int[] last = new int[64];
-        last[0] = 1;
-        sameHead("last head over a spoiled one", y, last);
+        BlockJournal twice = Journals.withChanges(25);
+        Journals.sequence(twice, 0xFFFFFFFFL);
+        twice.commit();
+        twice.put(25);
+        twice.commit();
+        DUE.compare("goes on behind the wrap", 1L, twice.look(0));
     }
 
     private static void payloadBehindStays() {
+        DUE.about("the changes' bytes into the blocks 1 .. n: no other block of the payload");
         BlockJournal x = Journals.withChanges(30, 31, 32);
         x.commit();
         x.feed(1, 77);
@@ -134,57 +182,69 @@ public final class CommitTest {
         DUE.is("writes", 12L, () -> x.look(4));
     }
 
-    private static void throwsWithoutChangesOrPower() {
+    private static void noChangesThen() {
+        DUE.about("There are no changes then.");
+        for (int done = 0; done <= 6; done++) {
+            BlockJournal x = Journals.withChanges(30, 31);
+            x.feed(2, 9);
+            x.lose(done + 1);
+            x.commit();
+            String cut = "behind " + done + " writes: ";
+            DUE.is(cut + "look(3)", 0L, () -> x.look(3));
+            DUE.fails(cut + "change(0)", java.util.NoSuchElementException.class, () -> x.change(0));
+            DUE.is(cut + "drop()", 0, x::drop);
+            x.power();
+            DUE.fails(cut + "commit() again", IllegalStateException.class, x::commit);
+            DUE.is(cut + "the tape stays", 3, () -> x.feed(1, 1));
+        }
+    }
+
+    private static void throwsWithoutChanges() {
+        DUE.about("Throws IllegalStateException when there are none");
         BlockJournal x = new BlockJournal();
+        x.feed(8, -1);
         x.lose(1);
         DUE.fails("commit() of nothing", IllegalStateException.class, x::commit);
         DUE.is("the power is still on", 0L, () -> x.look(5));
-
-        BlockJournal y = new BlockJournal();
-        Journals.powerOff(y);
-        DUE.fails("commit() of nothing, power off", IllegalStateException.class, y::commit);
-        y.feed(1, 9);
-        y.put(44);
-        String before = Journals.state(y);
-        DUE.fails("commit() with the power off", IllegalStateException.class, y::commit);
-        DUE.is("nothing is changed", true, () -> before.equals(Journals.state(y)));
-        y.power();
-        DUE.is("commit() with the power on", true, y::commit);
-        DUE.is("the change was kept", 9, () -> y.at(44, 0));
+        DUE.is("what was said stays", 0L, () -> x.look(6));
+        DUE.is("no write", 0L, () -> x.look(4));
+        DUE.is("the sequence stays", 0L, () -> x.look(0));
+        BlockJournal again = Journals.withChanges(30);
+        again.commit();
+        DUE.fails("commit() again", IllegalStateException.class, again::commit);
+        DUE.is("writes", 4L, () -> again.look(4));
+        BlockJournal dropped = Journals.full();
+        dropped.drop();
+        DUE.fails("commit() behind drop()", IllegalStateException.class, dropped::commit);
     }
 
-    /** Wherever the power is lost, a recovery leaves all changes done or none. */
+    private static void throwsWithThePowerOff() {
+        DUE.about("or the power is off.");
+        BlockJournal x = Journals.dark();
+        DUE.fails("commit() of nothing", IllegalStateException.class, x::commit);
+        x.feed(1, 9);
+        x.put(44);
+        String before = Journals.state(x);
+        DUE.fails("commit() of a change", IllegalStateException.class, x::commit);
+        DUE.compare("nothing is changed", before, Journals.state(x));
+        x.power();
+        DUE.is("commit() with the power on", true, x::commit);
+        DUE.is("the change was kept", 9, () -> x.at(44, 0));
+    }
+
     private static void allOrNothing() {
-        for (int done = 0; done <= 9; done++) {
-            BlockJournal x = Journals.cut(done, 30, 50, 70, 95);
-            x.recover();
-            int first = done >= 5 ? 1 : 0;
-            String cut = "recovered behind " + done + " writes: ";
-            DUE.is(cut + "30", first, () -> x.at(30, 0));
-            DUE.is(cut + "50", 2 * first, () -> x.at(50, 0));
-            DUE.is(cut + "70", 3 * first, () -> x.at(70, 0));
-            DUE.is(cut + "95", 4 * first, () -> x.at(95, 0));
-            DUE.is(cut + "sequence", (long) first, () -> x.look(0));
-        }
-    }
-
-    /** The check over the payload, whose blocks were all made of at most 8 bytes here. */
-    private static void putCheck(BlockJournal x, int[] head) {
-        CRC32C check = new CRC32C();
-        for (int block = 1; block <= head[4]; block++) {
-            for (int k = 0; k < 64; k++) {
-                check.update(k < 8 ? x.at(block, k) : 0);
+        DUE.about("changes of many blocks are done all together or not at all, wherever the power is lost");
+        for (int n : new int[] {1, 4, 24}) {
+            for (int done = 0; done < 2 * n + 2; done++) {
+                BlockJournal x = Journals.cut(done, Journals.everySecond(n));
+                int all = done > n ? 1 : 0;
+                String cut = n + " changes, recovered behind " + done + " writes: ";
+                DUE.is(cut + "recover()", all * n, x::recover);
+                for (int i = 0; i < n; i++) {
+                    DUE.compare(cut + "change " + i, all * (i + 1), x.at(25 + 2 * i, 0));
+                }
+                DUE.compare(cut + "sequence", (long) all, x.look(0));
             }
-        }
-        for (int i = 0; i < 4; i++) {
-            head[59 + i] = (int) (check.getValue() >>> 8 * i) & 255;
-        }
-    }
-
-    private static void sameHead(String what, BlockJournal x, int[] head) {
-        for (int k = 0; k < 64; k++) {
-            int at = k;
-            DUE.is(what + ", byte " + k, head[k], () -> x.at(0, at));
         }
     }
 }

@@ -1,9 +1,27 @@
 import java.util.concurrent.Callable;
 
-/** Compares answers with those that are due, and counts both kinds. */
+/** Compares answers with those that are due, and counts both kinds, sentence by sentence of the document. */
 final class Due {
     private int right;
     private int wrong;
+    private int sentences;
+    private String sentence = "";
+    private int before;
+
+    /** What is compared from now on is due by this sentence. */
+    void about(String words) {
+        closeSentence();
+        sentence = words;
+        before = right + wrong;
+        sentences++;
+    }
+
+    /** A sentence of which nothing was compared has no test. */
+    private void closeSentence() {
+        if (sentences > 0 && right + wrong == before) {
+            compare("answers compared", "some", "none");
+        }
+    }
 
     /** The call answers the number, or the truth, that is due. */
     void is(String call, Object want, Callable<?> body) {
@@ -20,7 +38,7 @@ final class Due {
             right++;
         } else {
             wrong++;
-            System.out.println(call + ": " + got + ", due is " + want);
+            System.out.println("\"" + sentence + "\" " + call + ": " + got + ", due is " + want);
         }
     }
 
@@ -38,7 +56,8 @@ final class Due {
     }
 
     void end() {
-        System.out.println(right + " answers as due, " + wrong + " not");
+        closeSentence();
+        System.out.println(sentences + " sentences: " + right + " answers as due, " + wrong + " not");
         if (wrong != 0 || right == 0) {
             System.exit(1);
         }

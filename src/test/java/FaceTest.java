@@ -27,6 +27,7 @@ public final class FaceTest {
 
     public static void main(String[] args) {
         Due due = new Due();
+        due.about("The public face");
         Set<String> seen = new TreeSet<>();
         for (Method method : BlockJournal.class.getDeclaredMethods()) {
             note(seen, method.getModifiers(), method.toString());

@@ -1,3 +1,6 @@
+import java.util.Arrays;
+import java.util.zip.CRC32C;
+
 /** Objects of BlockJournal in states that several tests begin with, and looks at a whole of them. */
 final class Journals {
     private Journals() {
@@ -13,13 +16,18 @@ final class Journals {
         return journal;
     }
 
-    /** 24 changes of the blocks 25, 27, .. 71. */
-    static BlockJournal full() {
-        int[] blocks = new int[24];
-        for (int i = 0; i < blocks.length; i++) {
+    /** The blocks 25, 27, 29, ..: so many of them, with gaps between them. */
+    static int[] everySecond(int many) {
+        int[] blocks = new int[many];
+        for (int i = 0; i < many; i++) {
             blocks[i] = 25 + 2 * i;
         }
-        return withChanges(blocks);
+        return blocks;
+    }
+
+    /** 24 changes of the blocks 25, 27, .. 71. */
+    static BlockJournal full() {
+        return withChanges(everySecond(24));
     }
 
     /** A commit of withChanges(blocks) that lost the power behind so many writes; it is on again. */
@@ -35,6 +43,66 @@ final class Journals {
         journal.put(25);
         journal.lose(1);
         journal.commit();
+    }
+
+    static BlockJournal dark() {
+        BlockJournal journal = new BlockJournal();
+        powerOff(journal);
+        return journal;
+    }
+
+    /** The bytes first, first + 1, .. come onto the tape: so many of them. */
+    static void feedBytes(BlockJournal journal, int many, int first) {
+        for (int i = 0; i < many; i++) {
+            journal.feed(1, first + i);
+        }
+    }
+
+    static void sequence(BlockJournal journal, long sequence) {
+        for (int k = 0; k < 4; k++) {
+            journal.spoil(0, k, (int) (sequence >>> 8 * k));
+        }
+    }
+
+    /** The head that the document tells, its check taken of payload blocks with these bytes. */
+    static int[] head(long sequence, int[] targets, int[][] payload) {
+        CRC32C check = new CRC32C();
+        for (int[] block : payload) {
+            for (int value : block) {
+                check.update(value);
+            }
+        }
+        int[] head = new int[64];
+        number(head, 0, 4, sequence);
+        head[4] = targets.length;
+        for (int i = 0; i < targets.length && i < 27; i++) {
+            number(head, 5 + 2 * i, 2, targets[i]);
+        }
+        number(head, 59, 4, check.getValue());
+        return head;
+    }
+
+    static int[] emptyHead(long sequence) {
+        int[] head = new int[64];
+        number(head, 0, 4, sequence);
+        return head;
+    }
+
+    static void number(int[] block, int place, int bytes, long value) {
+        for (int i = 0; i < bytes; i++) {
+            block[place + i] = (int) (value >>> 8 * i) & 255;
+        }
+    }
+
+    /** A block that begins with these bytes. */
+    static int[] block(int... bytes) {
+        return Arrays.copyOf(bytes, 64);
+    }
+
+    static void sameBlock(Due due, String what, BlockJournal journal, int number, int[] bytes) {
+        for (int k = 0; k < 64; k++) {
+            due.compare(what + ", byte " + k + " of block " + number, bytes[k], journal.at(number, k));
+        }
     }
 
     /**

@@ -28,6 +28,7 @@ public final class ModelTest {
 
     public static void main(String[] args) {
         Due due = new Due();
+        due.about("All promises, in drawn runs");
         for (int seed = 0; seed < RUNS; seed++) {
             new ModelTest(due, seed).run();
         }
