@@ -43,7 +43,18 @@ public final class FaceTest {
         due.compare("public and final", Modifier.PUBLIC | Modifier.FINAL, modifiers);
         due.compare("class above", Object.class, BlockJournal.class.getSuperclass());
         due.compare("interfaces", "[]", Arrays.toString(BlockJournal.class.getInterfaces()));
+        madeOnce(due);
         due.end();
+    }
+
+    private static void madeOnce(Due due) {
+        due.about("All memory is the class's own, made once.");
+        for (Field field : BlockJournal.class.getDeclaredFields()) {
+            if (!field.getType().isPrimitive()) {
+                due.compare(field.getName() + " is final", true, Modifier.isFinal(field.getModifiers()));
+                due.compare(field.getName() + " is the object's own", false, Modifier.isStatic(field.getModifiers()));
+            }
+        }
     }
 
     private static void note(Set<String> seen, int modifiers, String member) {

@@ -114,7 +114,7 @@ public final class RecoverTest {
     }
 
     private static void bytesThatAreNotAsked() {
-        DUE.about("The head is right if its count, that many targets and its check are: the other bytes are not asked.");
+        DUE.about("The head is right if its count, that many targets and its check are: no other byte is asked.");
         BlockJournal x = laid(2, new int[] {30, 31}, 2);
         for (int k = 0; k < 64; k++) {
             if (k < 4 || k >= 9 && k < 59 || k == 63) {
