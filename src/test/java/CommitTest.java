@@ -16,6 +16,8 @@ public final class CommitTest {
         throwsWithoutChanges();
         throwsWithThePowerOff();
         allOrNothing();
+        allOrNothingAgain();
+        overOneThatIsNotFinished();
         DUE.end();
     }
 
@@ -245,6 +247,55 @@ public final class CommitTest {
                 }
                 DUE.compare(cut + "sequence", (long) all, x.look(0));
             }
+        }
+    }
+
+    /** The power is lost in the recovery, too, at every write of it: the blocks held other bytes before. */
+    private static void allOrNothingAgain() {
+        DUE.about("all together or not at all: also when the power is lost again before all is recovered");
+        for (int done = 0; done < 8; done++) {
+            BlockJournal x = Journals.withChanges(30, 50, 95);
+            x.commit();
+            for (int block : new int[] {30, 50, 95}) {
+                x.feed(1, 100 + block);
+                x.put(block);
+            }
+            x.lose(done + 1);
+            x.commit();
+            x.power();
+            boolean all = done > 3;
+            for (int again = 0; again < 4; again++) {
+                x.lose(again + 1);
+                DUE.is("recover() cut behind " + again, all ? -1 : 0, x::recover);
+                x.power();
+            }
+            DUE.is("recover()", all ? 3 : 0, x::recover);
+            DUE.compare("block 30", all ? 130 : 1, x.at(30, 0));
+            DUE.compare("block 50", all ? 150 : 2, x.at(50, 0));
+            DUE.compare("block 95", all ? 195 : 3, x.at(95, 0));
+            DUE.compare("sequence", all ? 2L : 1L, x.look(0));
+        }
+    }
+
+    /** Nothing in the document has a commit recover first. */
+    private static void overOneThatIsNotFinished() {
+        DUE.about("A commit makes these writes: also over a head that is right");
+        for (int done = 0; done <= 4; done++) {
+            BlockJournal x = Journals.cut(4, 30, 31);
+            Journals.sequence(x, 7);
+            DUE.compare("the first is not finished", 1L, x.look(2));
+            x.feed(1, 77);
+            x.put(40);
+            x.lose(done + 1);
+            DUE.is("second commit() cut behind " + done, done == 4, x::commit);
+            x.power();
+            String cut = "behind " + done + " writes of the second: ";
+            DUE.compare(cut + "writes", 4L + done, x.look(4));
+            DUE.compare(cut + "block 31 of the first", 0, x.at(31, 0));
+            DUE.compare(cut + "sequence", done == 4 ? 8L : 7L, x.look(0));
+            DUE.compare(cut + "count", done < 2 ? 2L : done < 4 ? 1L : 0L, x.look(1));
+            DUE.is(cut + "recover()", new int[] {2, 0, 1, 1, 0}[done], x::recover);
+            DUE.compare(cut + "block 40", done < 2 ? 0 : 77, x.at(40, 0));
         }
     }
 }
